@@ -1,0 +1,74 @@
+/** Compares answers with those that are due, and counts the wrong ones. */
+final class Check {
+    private static final int LINES_AT_MOST = 40;
+    private static int wrong = 0;
+
+    /** A call whose answer is a number. */
+    interface Call {
+        long answer();
+    }
+
+    private Check() {
+    }
+
+    static void due(String call, long got, long want) {
+        if (got != want) {
+            tell(call + " answered " + got + ", due is " + want);
+        }
+    }
+
+    static void due(String call, double got, double want) {
+        if (Double.doubleToLongBits(got) != Double.doubleToLongBits(want)) {
+            tell(call + " answered " + got + ", due is " + want);
+        }
+    }
+
+    static void holds(String what, boolean holds) {
+        if (!holds) {
+            tell(what + " does not hold");
+        }
+    }
+
+    /** The call must throw just this class, no class below it, and leave the object as it was. */
+    static void dueThrows(String name, LeadTimes x, Class<? extends RuntimeException> want, Call call) {
+        String before = Looks.all(x);
+        Class<?> got = null;
+        try {
+            call.answer();
+        } catch (RuntimeException e) {
+            got = e.getClass();
+        }
+        if (got != want) {
+            tell(name + " threw " + got + ", due is " + want);
+        }
+        if (!before.equals(Looks.all(x))) {
+            tell(name + " changed the object though it threw");
+        }
+    }
+
+    /** The call must answer so, and leave the object as it was. */
+    static void dueLook(String name, LeadTimes x, long want, Call call) {
+        String before = Looks.all(x);
+        due(name, call.answer(), want);
+        if (!before.equals(Looks.all(x))) {
+            tell(name + " changed the object though it is a look");
+        }
+    }
+
+    static void tell(String line) {
+        wrong++;
+        if (wrong <= LINES_AT_MOST) {
+            System.out.println(line);
+        }
+    }
+
+    static int wrong() {
+        return wrong;
+    }
+
+    /** Ends the program: with exit code 1 if an answer was wrong. */
+    static void end() {
+        System.out.println(wrong == 0 ? "all answers are as due" : wrong + " answers are not as due");
+        System.exit(wrong == 0 ? 0 : 1);
+    }
+}
