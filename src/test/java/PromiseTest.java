@@ -122,6 +122,7 @@ public final class PromiseTest {
         Check.due("remove", x.remove(0), 22);
         Check.holds("the slot is free", !Looks.has(x, 0));
         Check.due("movers", x.count(1), 1);
+        Check.due("the leader then", x.contest(1, 0), 1);
         Check.due("nothing is counted", x.count(3), 0);
         Check.dueThrows("remove again", x, INDEX, () -> x.remove(0));
         for (int wrong : new int[] {-1, 16, Integer.MIN_VALUE, Integer.MAX_VALUE}) {
@@ -135,6 +136,7 @@ public final class PromiseTest {
         x.pass(2);
         Check.due("speed", x.speed(0, -5), 3);
         Check.due("its value stays", x.mover(0, 0), 16);
+        Check.due("the next turn is another one", x.nextTurn(0), 26);
         x.pass(1);
         Check.due("it has the new speed from then on", x.mover(0, 0), 11);
         Check.due("speed least", x.speed(0, -99), -5);
@@ -351,6 +353,7 @@ public final class PromiseTest {
             Check.due("speed on " + slot, x.mover(slot, 1), speeds[slot]);
             Check.due("added on " + slot, x.mover(slot, 6), added[slot]);
         }
+        Check.due("the leader then", x.contest(1, 0), 4);
         Check.due("the buffer is clear", x.clearBuffer(), 0);
         Check.due("nothing is counted", x.count(3), 0);
         Check.due("undo as one call", x.undo(), 5);
@@ -560,6 +563,7 @@ public final class PromiseTest {
         dueAll("0 is ahead of 1 now", x, what -> x.overtakes(0, 1, what), 1, 1);
         dueAll("0 is ahead of 2 as equal", x, what -> x.overtakes(0, 2, what), 1, 1);
         dueAll("2 never overtakes 0", x, what -> x.overtakes(2, 0, what), 0, 0);
+        dueAll("3 never overtakes 2", x, what -> x.overtakes(3, 2, what), 0, 0);
         dueAll("3 never overtakes 0", x, what -> x.overtakes(3, 0, what), 0, 0);
         dueAll("1 never overtakes itself", x, what -> x.overtakes(1, 1, what), 0, 0);
         dueAll("1 overtakes 3", x, what -> x.overtakes(1, 3, what), 2, 1);
@@ -637,6 +641,8 @@ public final class PromiseTest {
         Check.due("leadShare up to the horizon", x.leadShare(3), 1.0);
         Check.due("leadShare behind the horizon", x.leadShare(1), 0.0);
         Check.due("leadShare far behind the horizon", x.leadShare(2), 0.0);
+        x.set(1, 1);
+        Check.due("leadShare of the least horizon", x.leadShare(3), 1.0);
         LeadTimes thirds = with(1, 0, 0, 3);
         thirds.pass(7);
         thirds.jump(0, 22);
