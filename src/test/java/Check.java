@@ -8,6 +8,11 @@ final class Check {
         long answer();
     }
 
+    /** A look that is asked for one property or the other. */
+    interface Look {
+        int answer(int what);
+    }
+
     private Check() {
     }
 
@@ -20,6 +25,13 @@ final class Check {
     static void due(String call, double got, double want) {
         if (Double.doubleToLongBits(got) != Double.doubleToLongBits(want)) {
             tell(call + " answered " + got + ", due is " + want);
+        }
+    }
+
+    /** What a look must answer for what from 0 on. */
+    static void dueEach(String name, Look look, int... wants) {
+        for (int what = 0; what < wants.length; what++) {
+            due(name + ", " + what, look.answer(what), wants[what]);
         }
     }
 

@@ -40,39 +40,12 @@ public final class PromiseTest {
         Check.end();
     }
 
-    /** An object with these movers on the slots from 0, each a value and a speed. */
-    private static LeadTimes with(int... values) {
-        LeadTimes x = new LeadTimes();
-        for (int i = 0; i + 1 < values.length; i += 2) {
-            x.add(values[i], values[i + 1]);
-        }
-        return x;
-    }
-
-    private static LeadTimes full() {
-        LeadTimes x = new LeadTimes();
-        for (int slot = 0; slot < 16; slot++) {
-            x.add(-slot * slot, slot);
-        }
-        return x;
-    }
-
-    private static void type(LeadTimes x, String text) {
-        for (int i = 0; i < text.length(); i++) {
-            x.append(text.charAt(i));
-        }
-    }
-
     /** What a look answers for what from 0 on. */
-    private static void dueAll(String name, LeadTimes x, Look look, int... wants) {
+    private static void dueAll(String name, LeadTimes x, Check.Look look, int... wants) {
         for (int what = 0; what < wants.length; what++) {
             int asked = what;
             Check.dueLook(name + " " + what, x, wants[what], () -> look.answer(asked));
         }
-    }
-
-    private interface Look {
-        int answer(int what);
     }
 
     /** Promise 1. */
@@ -108,7 +81,7 @@ public final class PromiseTest {
         x.add(0, 0);
         x.remove(1);
         Check.due("add on the lowest free slot", x.add(7, 7), 1);
-        LeadTimes full = full();
+        LeadTimes full = Scenes.full();
         Check.dueThrows("add without a slot", full, STATE, () -> full.add(0, 0));
         Check.dueThrows("add with a wrong value is told first", full, ARGUMENT, () -> full.add(10000, 0));
         full.remove(15);
@@ -117,7 +90,7 @@ public final class PromiseTest {
 
     /** Promise 3. */
     private static void remove() {
-        LeadTimes x = with(10, 3, 20, 1);
+        LeadTimes x = Scenes.with(10, 3, 20, 1);
         x.pass(4);
         Check.due("remove", x.remove(0), 22);
         Check.holds("the slot is free", !Looks.has(x, 0));
@@ -132,7 +105,7 @@ public final class PromiseTest {
 
     /** Promise 4. */
     private static void speed() {
-        LeadTimes x = with(10, 3, 0, -4);
+        LeadTimes x = Scenes.with(10, 3, 0, -4);
         x.pass(2);
         Check.due("speed", x.speed(0, -5), 3);
         Check.due("its value stays", x.mover(0, 0), 16);
@@ -151,7 +124,7 @@ public final class PromiseTest {
 
     /** Promise 5. */
     private static void jump() {
-        LeadTimes x = with(10, 0, 12, 0);
+        LeadTimes x = Scenes.with(10, 0, 12, 0);
         Check.due("jump", x.jump(0, 5), 15);
         Check.due("leader then", x.contest(1, 0), 0);
         Check.due("nothing is counted", x.count(3), 0);
@@ -165,7 +138,7 @@ public final class PromiseTest {
     }
 
     private static void jumpToTheLimits() {
-        LeadTimes x = with(9999, 0, -9999, 0);
+        LeadTimes x = Scenes.with(9999, 0, -9999, 0);
         for (int i = 0; i < 99; i++) {
             x.jump(0, 9999);
             x.jump(1, -9999);
@@ -185,7 +158,7 @@ public final class PromiseTest {
 
     /** Promise 6. */
     private static void swap() {
-        LeadTimes x = with(5, 0, 4, 0, 3, 0);
+        LeadTimes x = Scenes.with(5, 0, 4, 0, 3, 0);
         x.pass(1);
         x.add(2, 0);
         Check.due("swap in a pair", x.swap(0, 1), 0);
@@ -201,12 +174,12 @@ public final class PromiseTest {
         Check.dueThrows("swap -1", x, INDEX, () -> x.swap(-1, 0));
         Check.dueThrows("swap with 16", x, INDEX, () -> x.swap(0, 16));
         Check.dueThrows("swap with -1", x, INDEX, () -> x.swap(0, -1));
-        LeadTimes same = with(5, 0, 5, 0);
+        LeadTimes same = Scenes.with(5, 0, 5, 0);
         Check.due("as equals, the lower slot wins: all four contests", same.swap(0, 1), 4);
     }
 
     private static void swapOfNoMover() {
-        LeadTimes x = with(5, 0);
+        LeadTimes x = Scenes.with(5, 0);
         Check.due("swap of free slots", x.swap(3, 4), 0);
         Check.due("it is saved", x.count(6), 2);
         Check.due("swap to a free slot of the pair", x.swap(0, 1), 0);
@@ -220,7 +193,7 @@ public final class PromiseTest {
 
     /** Promise 7. */
     private static void pass() {
-        LeadTimes x = full();
+        LeadTimes x = Scenes.full();
         Check.due("pass 1: at the moment itself is counted", x.pass(1), 4);
         Check.due("pass 1: nothing is counted twice", x.pass(1), 0);
         Check.due("pass 97", x.pass(97), 45);
@@ -232,7 +205,7 @@ public final class PromiseTest {
         for (int wrong : new int[] {0, -1, 100, Integer.MIN_VALUE, Integer.MAX_VALUE}) {
             Check.dueThrows("pass " + wrong, x, ARGUMENT, () -> x.pass(wrong));
         }
-        LeadTimes late = with(0, 1);
+        LeadTimes late = Scenes.with(0, 1);
         for (int i = 0; i < 100; i++) {
             late.pass(99);
         }
@@ -246,23 +219,23 @@ public final class PromiseTest {
 
     /** Promise 8. */
     private static void passToTurn() {
-        LeadTimes x = with(0, 3, -5, 4, 6, 0);
+        LeadTimes x = Scenes.with(0, 3, -5, 4, 6, 0);
         Check.due("next turn", x.nextTurn(0), 2);
         Check.due("passToTurn to a whole moment: 4, 2 and 1 turn", x.passToTurn(), 3);
         Check.due("time", x.count(0), 2);
         Check.due("passToTurn to the next one: 8, 4, 2 and 1 turn", x.passToTurn(), 4);
         Check.due("time", x.count(0), 5);
         Check.dueThrows("passToTurn without a turn", x, STATE, x::passToTurn);
-        LeadTimes part = with(1, 0, 0, 3, -2, 6, -90, 7);
+        LeadTimes part = Scenes.with(1, 0, 0, 3, -2, 6, -90, 7);
         // at 1/3 (8, 4, 2, 1) and at 2/3 (4, 2, 1): all are counted, as the first whole moment is 1
         Check.due("passToTurn behind two moments", part.passToTurn(), 7);
         Check.due("time", part.count(0), 1);
-        LeadTimes far = with(9999, 0, 0, 1);
+        LeadTimes far = Scenes.with(9999, 0, 0, 1);
         Check.due("passToTurn to 9999", far.passToTurn(), 4);
         Check.due("time", far.count(0), 9999);
-        LeadTimes farther = with(9999, 0, -1, 1);
+        LeadTimes farther = Scenes.with(9999, 0, -1, 1);
         Check.dueThrows("passToTurn above 9999", farther, STATE, farther::passToTurn);
-        LeadTimes later = with(5000, 0, 0, 1);
+        LeadTimes later = Scenes.with(5000, 0, 0, 1);
         later.pass(1);
         later.jump(0, 5001);
         Check.dueThrows("passToTurn above 9999 from later", later, STATE, later::passToTurn);
@@ -272,7 +245,7 @@ public final class PromiseTest {
 
     /** Promise 9. */
     private static void set() {
-        LeadTimes x = with(5, 1, 5, 1, 5, 1);
+        LeadTimes x = Scenes.with(5, 1, 5, 1, 5, 1);
         Check.due("set 0", x.set(0, 1), 0);
         Check.due("the greater number is ahead then", x.contest(1, 0), 2);
         Check.due("also in the pair", x.contest(8, 0), 1);
@@ -311,7 +284,7 @@ public final class PromiseTest {
     private static void clearBuffer() {
         LeadTimes x = new LeadTimes();
         Check.due("clearBuffer of nothing", x.clearBuffer(), 0);
-        type(x, "1+x");
+        Scenes.typed(x, "1+x");
         Check.due("clearBuffer", x.clearBuffer(), 3);
         Check.due("clearBuffer again", x.clearBuffer(), 0);
         Check.due("append then", x.append('1'), 1);
@@ -329,21 +302,21 @@ public final class PromiseTest {
         };
         for (int i = 0; i < texts.length; i += 2) {
             LeadTimes x = new LeadTimes();
-            type(x, (String) texts[i]);
+            Scenes.typed(x, (String) texts[i]);
             Check.dueLook("firstError of " + texts[i], x, (Integer) texts[i + 1], x::firstError);
         }
         LeadTimes x = new LeadTimes();
-        type(x, "0+0;0+0;0+0;0+0;0+0;0+0;0+0;0+0;0+0;0+0;0+0;0+0;0+0;0+0;0+0;");
+        Scenes.typed(x, "0+0;0+0;0+0;0+0;0+0;0+0;0+0;0+0;0+0;0+0;0+0;0+0;0+0;0+0;0+0;");
         Check.dueLook("a full buffer has no error, as the text may be longer", x, 60, x::firstError);
         Check.dueThrows("but it is not complete", x, ARGUMENT, x::addAll);
     }
 
     /** Promise 13. */
     private static void addAll() {
-        LeadTimes x = with(1, 1, 2, 2, 3, 3);
+        LeadTimes x = Scenes.with(1, 1, 2, 2, 3, 3);
         x.pass(1);
         x.remove(1);
-        type(x, "-9999-99;0+0;9999+99;-0-0;10+5");
+        Scenes.typed(x, "-9999-99;0+0;9999+99;-0-0;10+5");
         Check.due("addAll", x.addAll(), 7);
         int[] values = {2, -9999, 6, 0, 9999, 0, 10};
         int[] speeds = {1, -99, 3, 0, 99, 0, 5};
@@ -360,8 +333,8 @@ public final class PromiseTest {
         Check.due("movers then", x.count(1), 2);
         Check.due("the buffer stays clear", x.clearBuffer(), 0);
         for (String text : new String[] {"", "-", "5", "-5", "5+", "5+3;", "5+3;x", "x", "5+3 ", "5+03", "05+3"}) {
-            LeadTimes wrong = full();
-            type(wrong, text.replace(' ', '!'));
+            LeadTimes wrong = Scenes.full();
+            Scenes.typed(wrong, text.replace(' ', '!'));
             Check.dueThrows("addAll of " + text + ", though no slot is free", wrong, ARGUMENT, wrong::addAll);
             Check.due("the buffer stays", wrong.clearBuffer(), text.length());
         }
@@ -369,8 +342,8 @@ public final class PromiseTest {
     }
 
     private static void addAllOfManyMovers() {
-        LeadTimes x = full();
-        type(x, "1+1;2+2");
+        LeadTimes x = Scenes.full();
+        Scenes.typed(x, "1+1;2+2");
         Check.dueThrows("addAll without a slot", x, STATE, x::addAll);
         x.remove(3);
         Check.dueThrows("addAll with one slot", x, STATE, x::addAll);
@@ -379,7 +352,7 @@ public final class PromiseTest {
         Check.due("value on 3", x.mover(3, 0), 1);
         Check.due("value on 9", x.mover(9, 0), 2);
         LeadTimes empty = new LeadTimes();
-        type(empty, "1+0;1+0;1+0;1+0;1+0;1+0;1+0;1+0;1+0;1+0;1+0;1+0;1+0;1+0;1+0");
+        Scenes.typed(empty, "1+0;1+0;1+0;1+0;1+0;1+0;1+0;1+0;1+0;1+0;1+0;1+0;1+0;1+0;1+0");
         Check.due("addAll of fifteen", empty.addAll(), 15);
         Check.due("saved as one", empty.count(6), 1);
     }
@@ -402,7 +375,7 @@ public final class PromiseTest {
         Check.due("movers", x.count(1), 3);
         Check.dueThrows("a call that throws saves nothing", x, ARGUMENT, () -> x.pass(0));
         Check.dueThrows("and so there is nothing", x, STATE, x::undo);
-        type(x, "1+1");
+        Scenes.typed(x, "1+1");
         Check.dueThrows("append is not undoable", x, STATE, x::undo);
         x.pass(1);
         x.append('0');
@@ -412,7 +385,7 @@ public final class PromiseTest {
 
     /** Each undoable call is taken back whole: time, values, settings, and what is counted. */
     private static void undoOfEachCall() {
-        LeadTimes x = full();
+        LeadTimes x = Scenes.full();
         x.pass(3);
         for (int i = 0; i < 6; i++) {
             x.set(1, 60);
@@ -434,7 +407,7 @@ public final class PromiseTest {
 
     /** Promise 15. */
     private static void mover() {
-        LeadTimes x = with(10, 0, 0, 3, -5, 4, 9, 1, 10, 0);
+        LeadTimes x = Scenes.with(10, 0, 0, 3, -5, 4, 9, 1, 10, 0);
         dueAll("mover 0", x, what -> x.mover(0, what), 10, 0, 0, 4, 0, 1, 0);
         dueAll("mover 1", x, what -> x.mover(1, what), 0, 3, 3, 0, 9, 2, 0);
         dueAll("mover 2", x, what -> x.mover(2, what), -5, 4, 4, 0, 5, 1, 0);
@@ -450,13 +423,13 @@ public final class PromiseTest {
         Check.dueThrows("mover of none", x, INDEX, () -> x.mover(6, 0));
         Check.dueThrows("mover of none is told first", x, INDEX, () -> x.mover(16, 7));
         Check.dueThrows("mover -1", x, INDEX, () -> x.mover(-1, 0));
-        LeadTimes tie = with(5, 1, 5, 2);
+        LeadTimes tie = Scenes.with(5, 1, 5, 2);
         Check.dueLook("with the same value, the faster one is ahead", tie, 0, () -> tie.mover(1, 2));
     }
 
     /** Promise 16. */
     private static void contest() {
-        LeadTimes x = with(10, 0, 0, 3, -5, 4, 9, 1, 10, 0);
+        LeadTimes x = Scenes.with(10, 0, 0, 3, -5, 4, 9, 1, 10, 0);
         dueAll("contest 1", x, what -> x.contest(1, what), 0, NONE, 1, 1, 3, 0);
         dueAll("contest 2", x, what -> x.contest(2, what), 0, 4, 1, 1, 3, 0);
         dueAll("contest 3", x, what -> x.contest(3, what), NONE, NONE, 0, 0, NONE, 0);
@@ -470,9 +443,9 @@ public final class PromiseTest {
         Check.dueThrows("contest 16 is told first", x, INDEX, () -> x.contest(16, 6));
         Check.dueThrows("contest what 6", x, ARGUMENT, () -> x.contest(15, 6));
         Check.dueThrows("contest what -1", x, ARGUMENT, () -> x.contest(15, -1));
-        LeadTimes meeting = with(0, 1, -1, 2, -2, 3);
+        LeadTimes meeting = Scenes.with(0, 1, -1, 2, -2, 3);
         Check.dueLook("of those that meet, the fastest wins", meeting, 2, () -> meeting.contest(1, 4));
-        LeadTimes same = with(5, 0, 0, 1, 0, 1);
+        LeadTimes same = Scenes.with(5, 0, 0, 1, 0, 1);
         Check.dueLook("of equals, the lower slot wins", same, 1, () -> same.contest(1, 4));
         same.set(0, 1);
         Check.dueLook("of equals, the greater slot wins", same, 2, () -> same.contest(1, 4));
@@ -480,7 +453,7 @@ public final class PromiseTest {
 
     /** Promise 17. */
     private static void nextTurn() {
-        LeadTimes x = full();
+        LeadTimes x = Scenes.full();
         dueAll("nextTurn", x, x::nextTurn, 1, 1, 4, 1);
         x.pass(1);
         dueAll("nextTurn at 1 is later than now", x, x::nextTurn, 3, 1, 3, 1);
@@ -491,17 +464,17 @@ public final class PromiseTest {
         last.add(4, 1);
         last.add(0, 7);
         dueAll("nextTurn of the last slots", last, last::nextTurn, 2, 3, 4, 1);
-        LeadTimes pair = with(9, 0, 5, 2, 0, 1, -3, 7);
+        LeadTimes pair = Scenes.with(9, 0, 5, 2, 0, 1, -3, 7);
         dueAll("nextTurn of a low pair alone", pair, pair::nextTurn, 1, 2, 1, 9);
         Check.dueThrows("nextTurn 4", x, ARGUMENT, () -> x.nextTurn(4));
         Check.dueThrows("nextTurn -1", x, ARGUMENT, () -> x.nextTurn(-1));
-        LeadTimes none = with(1, 2, 0, 2);
+        LeadTimes none = Scenes.with(1, 2, 0, 2);
         dueAll("no turn", none, none::nextTurn, 0, 0, 0, NONE);
     }
 
     /** Promise 18. */
     private static void span() {
-        LeadTimes x = with(10, 0, 0, 3, -5, 4, 9, 1);
+        LeadTimes x = Scenes.with(10, 0, 0, 3, -5, 4, 9, 1);
         dueAll("span 0", x, what -> x.span(0, what), 0, 0, 1);
         dueAll("span 1", x, what -> x.span(1, what), 3, 1, 1);
         dueAll("span 2", x, what -> x.span(2, what), 1, 9, 2);
@@ -519,7 +492,7 @@ public final class PromiseTest {
 
     /** Promise 19. */
     private static void count() {
-        LeadTimes x = with(10, 0, 0, 3, -5, 4, 9, 1, 10, 0);
+        LeadTimes x = Scenes.with(10, 0, 0, 3, -5, 4, 9, 1, 10, 0);
         dueAll("count", x, x::count, 0, 5, 4, 0, 0, 1, 5);
         x.pass(1);
         dueAll("count at 1", x, x::count, 1, 5, 3, 3, 1, 2, 6);
@@ -542,7 +515,7 @@ public final class PromiseTest {
 
     /** Promise 21. */
     private static void leaderAfter() {
-        LeadTimes x = with(10, 0, 0, 3, -5, 4, 9, 1);
+        LeadTimes x = Scenes.with(10, 0, 0, 3, -5, 4, 9, 1);
         int[] leaders = {0, 3, 3, 3, 3, 2, 2};
         dueAll("leaderAfter", x, x::leaderAfter, leaders);
         Check.dueLook("leaderAfter 9999", x, 2, () -> x.leaderAfter(9999));
@@ -557,7 +530,7 @@ public final class PromiseTest {
 
     /** Promise 22. */
     private static void overtakes() {
-        LeadTimes x = with(10, 0, 0, 4, 10, 0, 10, -1);
+        LeadTimes x = Scenes.with(10, 0, 0, 4, 10, 0, 10, -1);
         x.pass(1);
         dueAll("1 overtakes 0", x, what -> x.overtakes(1, 0, what), 5, 2);
         dueAll("0 is ahead of 1 now", x, what -> x.overtakes(0, 1, what), 1, 1);
@@ -576,19 +549,19 @@ public final class PromiseTest {
         Check.dueThrows("overtakes none", x, INDEX, () -> x.overtakes(0, 4, 0));
         Check.dueThrows("overtakes 16", x, INDEX, () -> x.overtakes(0, 16, 0));
         Check.dueThrows("overtakes of -1", x, INDEX, () -> x.overtakes(-1, 0, 0));
-        LeadTimes same = with(3, 1, 3, 2);
+        LeadTimes same = Scenes.with(3, 1, 3, 2);
         dueAll("with the same value now, the faster one is ahead", same, what -> same.overtakes(1, 0, what), 0, 1);
         dueAll("and the other one never", same, what -> same.overtakes(0, 1, what), 0, 0);
     }
 
     /** Promise 23. */
     private static void turnsIn() {
-        LeadTimes x = full();
+        LeadTimes x = Scenes.full();
         dueAll("turnsIn", x, x::turnsIn, 0, 4, 4, 7, 7, 11);
         Check.dueLook("turnsIn 999", x, 49, () -> x.turnsIn(999));
         Check.dueThrows("turnsIn 1000", x, ARGUMENT, () -> x.turnsIn(1000));
         Check.dueThrows("turnsIn -1", x, ARGUMENT, () -> x.turnsIn(-1));
-        LeadTimes far = with(9999, 0, 0, 1);
+        LeadTimes far = Scenes.with(9999, 0, 0, 1);
         for (int i = 0; i < 95; i++) {
             far.pass(99);
         }
@@ -600,7 +573,7 @@ public final class PromiseTest {
 
     /** Promise 24. */
     private static void leastSpeed() {
-        LeadTimes x = with(10, 0, 0, 3, -5, 4, 9, 1, 10, 0);
+        LeadTimes x = Scenes.with(10, 0, 0, 3, -5, 4, 9, 1, 10, 0);
         int[][] wants = {{0, 3, 4}, {-100, 4, 4}, {-100, 4, 4}, {-100, 3, 4}, {1, 3, 4}};
         int[] times = {0, 10, 999};
         for (int s = 0; s < wants.length; s++) {
@@ -610,14 +583,14 @@ public final class PromiseTest {
                 Check.dueLook("leastSpeed " + slot + " " + by, x, wants[slot][t], () -> x.leastSpeed(slot, by));
             }
         }
-        LeadTimes fast = with(0, 99, 0, 0, -1, 0);
+        LeadTimes fast = Scenes.with(0, 99, 0, 0, -1, 0);
         Check.dueLook("leastSpeed as equal with the lower slot", fast, -100, () -> fast.leastSpeed(1, 5));
         fast.set(0, 1);
         Check.dueLook("leastSpeed 99", fast, 99, () -> fast.leastSpeed(1, 5));
         Check.dueLook("leastSpeed, even 99 is too slow", fast, -100, () -> fast.leastSpeed(2, 999));
-        LeadTimes slow = with(9999, 5, -9999, -99);
+        LeadTimes slow = Scenes.with(9999, 5, -9999, -99);
         Check.dueLook("leastSpeed, even -99 is enough", slow, -99, () -> slow.leastSpeed(0, 999));
-        LeadTimes alone = with(0, 50);
+        LeadTimes alone = Scenes.with(0, 50);
         Check.dueLook("leastSpeed alone", alone, -99, () -> alone.leastSpeed(0, 7));
         Check.dueThrows("leastSpeed in 1000", x, ARGUMENT, () -> x.leastSpeed(0, 1000));
         Check.dueThrows("leastSpeed in -1", x, ARGUMENT, () -> x.leastSpeed(0, -1));
@@ -627,7 +600,7 @@ public final class PromiseTest {
 
     /** Promise 25. */
     private static void leadShare() {
-        LeadTimes x = with(10, 0, 0, 3, -5, 4, 9, 1, 10, 0);
+        LeadTimes x = Scenes.with(10, 0, 0, 3, -5, 4, 9, 1, 10, 0);
         double[] wants = {0.02, 0.01, 0.9, 0.07, 0.0};
         for (int slot = 0; slot < 5; slot++) {
             Check.due("leadShare " + slot, x.leadShare(slot), wants[slot]);
@@ -643,7 +616,7 @@ public final class PromiseTest {
         Check.due("leadShare far behind the horizon", x.leadShare(2), 0.0);
         x.set(1, 1);
         Check.due("leadShare of the least horizon", x.leadShare(3), 1.0);
-        LeadTimes thirds = with(1, 0, 0, 3);
+        LeadTimes thirds = Scenes.with(1, 0, 0, 3);
         thirds.pass(7);
         thirds.jump(0, 22);
         Check.due("leadShare by the told moments", thirds.leadShare(0), ((double) 23 / 3 - 7.0) / 50.0);
@@ -660,7 +633,7 @@ public final class PromiseTest {
         x.append('7');
         Check.due("digest of one mover", x.digest(), -4071982606546009255L);
         x.clearBuffer();
-        type(x, "0+3;-5+4;9+1;10+0;-70+9;3+3");
+        Scenes.typed(x, "0+3;-5+4;9+1;10+0;-70+9;3+3");
         Check.due("digest with a buffer", x.digest(), Looks.digest(x, "0+3;-5+4;9+1;10+0;-70+9;3+3"));
         x.addAll();
         for (int horizon = 1; horizon <= 60; horizon++) {
